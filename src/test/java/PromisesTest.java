@@ -82,6 +82,7 @@ public final class PromisesTest {
         promises40to42();
         promises43to45();
         promises46and47();
+        farEdges();
         everyWrongNumber();
         Due.end("PromisesTest");
     }
@@ -709,6 +710,15 @@ public final class PromisesTest {
         fault(x, "hearer 5." + "tale", 8);
         fault(x, "to 3", 0);
         fault(x, "5", 0);
+        fault(x, "xale", 0);
+        fault(x, "tale" + (char) 0, 4);
+        fault(x, (char) 0 + "tale", 0);
+        fault(x, "tale z", 5);
+        fault(x, "talez", 0);
+        fault(x, "tale`", 4);
+        fault(x, "tale{", 4);
+        fault(x, "tale of/", 7);
+        fault(x, "tale of:", 7);
         due(book(x, "tale;tale;tale;tale;tale;tale;tale;tale"), 8);
         fault(x, "hearer 1;tale of 99", 9);
         due(book(x, "pad 1;pad 1;pad 1;pad 1;pad 1;pad 1;pad 1;pad 1;pad 1;pad 1"), 10);
@@ -970,6 +980,133 @@ public final class PromisesTest {
             due(x.status(which), want[which]);
         }
         due(x.status(-1), 11);
+    }
+
+    /** The greatest and the least that the document allows, where nothing above asks for them. */
+    private static void farEdges() {
+        YearWords x = begin(4);
+        x.part(4, 12, 12, 3);
+        due(x.set(0, 3, 0), 3);
+        due(x.set(0, 3, 2), 0);
+        promise = 7;
+        due(x.value(0, 24), 24);
+        due(x.value(0, 25), BEYOND);
+        tell(x, 0, 0);
+        promise = 13;
+        due(x.ways(0, 24), 1);
+        due(x.ways(0, 36), 2);
+        due(x.ways(0, 48), 1);
+        promise = 16;
+        due(x.best(0, 48, -1), 48);
+        due(x.best(0, 36, 0), 12);
+        due(x.best(0, 36, 1), 24);
+        promise = 18;
+        due(x.fills(0, 72), 0);
+        x.part(5, 3, 3, 0);
+        tell(x, 0, 1);
+        due(x.fills(1, 28), 1);
+        promise = 28;
+        hear(x, 24, 23);
+        due(x.together(0, 48, 3), 1);
+        due(x.together(0, 36, 3), 2);
+        promise = 5;
+        due(x.turn(0, 0), 4);
+        due(x.partOf(0, 4), 1 << 12);
+        promise = 41;
+        tell(x);
+        x.sheet(0, 8, 1);
+        due(x.say(0, 2, 0), 0);
+        tell(x, 1);
+        x.write(0, 0, 9);
+        due(x.say(0, 3, 0), 1);
+        due(x.write(0, 0, 0), 0);
+
+        x = begin(25);
+        x.part(0, 11, 11, 0);
+        tell(x, 0, 0, 0, 0, 0, 0, 0, 0, 0);
+        hear(x, 0, 99);
+        due(x.when(0, 0), 99);
+        due(x.when(0, 1), 0);
+        promise = 26;
+        due(x.till(0, 1), 100);
+        x.part(5, 12, 12, 0);
+        tell(x, 1, 1, 1, 1, 1, 1, 1, 1);
+        due(x.till(1, 0), 97);
+
+        x = begin(13);
+        x.part(5, 12, 12, 0);
+        x.part(0, 12, 12, 9);
+        tell(x, 0, 0, 0, 0, 0, 0, 0, 0, 0, 0);
+        tell(x, 1, 1, 1, 1, 1, 1, 1, 1, 1, 1);
+        due(x.ways(0, 1), 10);
+        due(x.ways(0, 2), 55);
+        due(x.ways(1, 120), 1);
+        promise = 14;
+        x.cut(0);
+        due(x.allWays(0), 10604499373L);
+        promise = 15;
+        due(x.length(1, 0), 120);
+        due(x.length(1, 1), 120);
+        due(x.length(1, 2), 0);
+        promise = 16;
+        x.tell(0, 0);
+        due(x.best(0, 120, -1), -120);
+        due(x.best(0, 13, 8), 1);
+        due(x.best(0, 13, 9), 12);
+        due(x.best(1, 120, -1), 90);
+        promise = 18;
+        x.cut(0);
+        x.cut(1);
+        due(x.fills(1, 108), STATE);
+        due(x.fills(1, 109), 0);
+        due(x.fills(1, 120), 0);
+        due(x.fills(0, 120), 0);
+
+        x = withParts(32);
+        tell(x, 0, 1, 2);
+        hear(x, 3, 12);
+        due(x.chain(0), 0);
+
+        x = withParts(33);
+        tell(x, 5, 5, 5);
+        hear(x, 10, 1, 4, 7);
+        due(x.spread(0, 3), 15);
+
+        x = withParts(44);
+        for (int t = 0; t < 8; t++) {
+            tell(x, t % 6, 5, 4, 3, 2, 1, 0, 1, 2, t % 5);
+        }
+        x.image();
+        for (int t = 0; t < 8; t++) {
+            x.cut(t);
+            x.tell(t, 5);
+        }
+        x.undo();
+        for (int t = 0; t < 8; t++) {
+            due(x.ith(t, 9), t % 5);
+        }
+
+        x = begin(39);
+        x.sheet(0, 16, 5);
+        x.sheet(1, 16, 5);
+        due(x.copy(0, 4, 1, 0, 2), BEYOND);
+        due(x.copy(0, 0, 1, 4, 2), BEYOND);
+        due(x.copy(0, 0, 1, 0, 5), 5);
+        due(x.copy(0, 4, 1, 4, 1), 1);
+
+        x = begin(42);
+        x.part(0, 3, 3, 0);
+        for (int t = 0; t < 2; t++) {
+            tell(x, 0, 0);
+        }
+        hear(x, 9);
+        x.sheet(0, 8, 3);
+        for (int i = 0; i < 3; i++) {
+            x.write(0, i, 3);
+        }
+        x.cut(1);
+        due(x.read(0, 0, 0), 3);
+        due(x.read(0, 1, 0), 2);
     }
 
     /** Far numbers everywhere: nothing is thrown, and each is answered by BEYOND. */
