@@ -15,7 +15,7 @@ public final class YearWords {
     private static final int TITLE = 3;
     private static final int ECHO = 4;
     private static final int PAD = 5;
-    private static final int KINDS = 6;
+    private static final int KINDS = PAD + 1;
     /** The kind that each kind stands under; WORD stands under none. */
     private static final int[] UNDER = {-1, WORD, WORD, NAME, NAME, LINK};
 
