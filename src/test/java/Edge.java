@@ -1,8 +1,11 @@
 import java.util.ArrayList;
 import java.util.List;
 
-/** What the tests of boundary cases share: objects to ask, and what a refused call must leave as it was. */
-final class Edge {
+/**
+ * What the tests of promises share: objects to ask, and what a refused call must leave as it was.
+ * They stand below this class to call it all by its plain name.
+ */
+class Edge {
     static final int BEYOND = -1000000001;
     static final int FULL = -1000000002;
     static final int KIND = -1000000003;
@@ -15,9 +18,6 @@ final class Edge {
 
     private static String test = "";
     private static int row = 0;
-
-    private Edge() {
-    }
 
     interface Act {
         long on(YearWords x);

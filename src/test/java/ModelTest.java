@@ -2,8 +2,11 @@ import java.util.Random;
 
 /** Runs of calls chosen by a fixed seed, on the class and on the model: both answer the same. */
 public final class ModelTest {
-    private static final int RUNS = 1500;
+    private static final int RUNS = 2500;
+    /** So many calls of one object are promised. */
     private static final int CALLS = 512;
+    /** More than any one step of a run makes. */
+    private static final int STEP = 40;
     private static final String[] TOKENS = {"word", "name", "link", "title", "echo", "pad", "tale", "of", "hearer",
         "to", "worth", ";", "0", "1", "2", "3", "5", "7", "9", "12", "13", "40", "99", "100", "1000", "007", "x", ".", "ta"};
 
@@ -11,6 +14,7 @@ public final class ModelTest {
     private final YearWords x = new YearWords();
     private final Model m = new Model();
     private final int run;
+    private int calls = 0;
     private boolean isWrong = false;
 
     private ModelTest(int run) {
@@ -27,12 +31,15 @@ public final class ModelTest {
 
     private void go() {
         build();
-        for (int i = 0; i < CALLS - 120 && !isWrong; i++) {
+        while (calls < CALLS - STEP && !isWrong) {
             call(random.nextInt(50));
         }
+        Due.holds("run " + run + " has " + calls + " calls", calls <= CALLS);
     }
 
+    /** Behind each call of the object. */
     private void due(String call, long got, long want) {
+        calls++;
         Due.is("run " + run + ": " + call, got, want);
         if (got != want) {
             isWrong = true;
@@ -265,8 +272,13 @@ public final class ModelTest {
     }
 
     private void text(String text) {
-        for (int i = 0; i < text.length(); i++) {
-            due("feed", x.feed(text.charAt(i), 1), m.feed(text.charAt(i), 1));
+        for (int i = 0; i < text.length(); i += 4) {
+            int k = Math.min(4, text.length() - i);
+            int v = random.nextInt();
+            for (int j = i; j < i + k; j++) {
+                v = v << 8 | text.charAt(j);
+            }
+            due("feed " + v + " " + k, x.feed(v, k), m.feed(v, k));
         }
         due("book of '" + text + "'", x.book(), m.book());
     }

@@ -1,64 +1,20 @@
 /** What each promise of the document says, one method a promise: ordinary inputs, edges, wrong inputs. */
-public final class PromisesTest {
-    private static final int BEYOND = -1000000001;
-    private static final int FULL = -1000000002;
-    private static final int KIND = -1000000003;
-    private static final int NONE = -1000000004;
-    private static final int STATE = -1000000005;
-    private static final int MISSING = -1000000006;
-    private static final int SIZE = -1000000007;
-    private static final int LOW = Integer.MIN_VALUE;
-    private static final int HIGH = Integer.MAX_VALUE;
-
-    private static int promise = 0;
-    private static int row = 0;
-
-    private static void due(long got, long want) {
-        row++;
-        Due.is("promise " + promise + ", row " + row, got, want);
+public final class PromisesTest extends Edge {
+    private PromisesTest() {
     }
 
-    private static YearWords begin(int p) {
-        promise = p;
-        row = 0;
+    private static void ask(int promise) {
+        begin("promise " + promise);
+    }
+
+    private static YearWords begin(int promise) {
+        ask(promise);
         return new YearWords();
     }
 
-    /** A text onto THE TAPE. */
-    private static void put(YearWords x, String text) {
-        for (int i = 0; i < text.length(); i++) {
-            x.feed(text.charAt(i), 1);
-        }
-    }
-
-    private static int book(YearWords x, String text) {
-        put(x, text);
-        return x.book();
-    }
-
-    /** WORD 3; NAME 2 to 5; LINK 4; TITLE 3 to 8; ECHO 2 to 4; PAD 3 to 6, worth 1 to 6. */
-    private static YearWords withParts(int p) {
-        YearWords x = begin(p);
-        x.part(0, 3, 7, 1);
-        x.part(1, 2, 5, 2);
-        x.part(2, 4, 6, 3);
-        x.part(3, 3, 8, 4);
-        x.part(4, 2, 4, 5);
-        x.part(5, 3, 6, 6);
-        return x;
-    }
-
-    private static void tell(YearWords x, int... parts) {
-        int t = x.tale();
-        for (int p : parts) {
-            x.tell(t, p);
-        }
-    }
-
-    private static void hear(YearWords x, int... ages) {
-        for (int a : ages) {
-            x.hearer(a);
-        }
+    private static YearWords withParts(int promise) {
+        ask(promise);
+        return withParts();
     }
 
     public static void main(String[] args) {
@@ -230,7 +186,7 @@ public final class PromisesTest {
         due(x.tell(0, -1), BEYOND);
         due(x.tell(0, 5), 1);
 
-        promise = 11;
+        ask(11);
         due(x.ith(1, 0), 1);
         due(x.ith(1, 9), 4);
         due(x.ith(1, 10), BEYOND);
@@ -239,7 +195,7 @@ public final class PromisesTest {
         due(x.ith(0, 1), BEYOND);
         due(x.ith(2, 0), BEYOND);
 
-        promise = 10;
+        ask(10);
         due(x.cut(1), 4);
         due(x.cut(1), 3);
         due(x.cut(0), 5);
@@ -249,7 +205,7 @@ public final class PromisesTest {
         due(x.tell(1, 5), 9);
         due(x.ith(1, 8), 5);
 
-        promise = 12;
+        ask(12);
         due(x.size(0), 0);
         due(x.size(1), 9);
         due(x.size(2), BEYOND);
@@ -272,7 +228,7 @@ public final class PromisesTest {
         due(x.ways(1, 0), 1);
         due(x.ways(1, 1), 0);
 
-        promise = 14;
+        ask(14);
         due(x.allWays(0), 20);
         due(x.allWays(1), 1);
         due(x.allWays(2), BEYOND);
@@ -287,7 +243,7 @@ public final class PromisesTest {
         due(x.ways(2, 10), 1);
         due(x.ways(2, 11), 10);
 
-        promise = 15;
+        ask(15);
         due(x.length(0, 0), 4);
         due(x.length(0, 1), 13);
         due(x.length(0, 2), 0);
@@ -329,7 +285,7 @@ public final class PromisesTest {
         due(x.best(1, 0, 0), NONE);
         due(x.best(1, 1, 0), NONE);
 
-        promise = 17;
+        ask(17);
         due(x.richest(0), 9);
         due(x.richest(1), 0);
         due(x.richest(2), BEYOND);
@@ -338,7 +294,7 @@ public final class PromisesTest {
         tell(x, 6, 6);
         due(x.richest(2), 2);
 
-        promise = 18;
+        ask(18);
         tell(x, 0);
         due(x.fills(3, 3), STATE);
         due(x.fills(3, 7), 1);
@@ -384,7 +340,7 @@ public final class PromisesTest {
         due(x.hearer(100), BEYOND);
         due(x.count(2), 10);
 
-        promise = 20;
+        ask(20);
         due(x.age(1, 0), 99);
         due(x.age(1, 99), 0);
         due(x.age(1, 100), BEYOND);
@@ -392,7 +348,7 @@ public final class PromisesTest {
         due(x.age(10, 0), BEYOND);
         due(x.age(-1, 0), BEYOND);
 
-        promise = 21;
+        ask(21);
         due(x.ageOf(1), 99);
         due(x.ageOf(9), 9);
         due(x.ageOf(10), BEYOND);
@@ -410,7 +366,7 @@ public final class PromisesTest {
         due(x.to(3), BEYOND);
         due(x.to(-1), BEYOND);
 
-        promise = 23;
+        ask(23);
         due(x.tales(0), 5);
         due(x.tales(2), 6);
         due(x.tales(3), 0);
@@ -460,7 +416,7 @@ public final class PromisesTest {
         due(x.when(-1, 0), BEYOND);
         due(x.when(0, -1), BEYOND);
 
-        promise = 26;
+        ask(26);
         due(x.till(0, 0), 1);
         due(x.till(0, 1), 0);
         due(x.till(2, 3), 7);
@@ -503,7 +459,7 @@ public final class PromisesTest {
         due(x.heard(0, 9, 5), BEYOND);
         due(x.heard(0, 3, -1), BEYOND);
 
-        promise = 28;
+        ask(28);
         // In 9 words: 2 and 3 with the link; 3, 2; 5, 4 and 3, 6 without
         due(x.together(0, 9, 0), 0);
         due(x.together(0, 9, 2), 1);
@@ -536,7 +492,7 @@ public final class PromisesTest {
         due(x.pass(0, 5), BEYOND);
         due(x.pass(0, -1), BEYOND);
 
-        promise = 30;
+        ask(30);
         due(x.through(0, 1, 2), 3);
         due(x.through(0, 0, 1), 0);
         due(x.through(0, 1, 0), 1);
@@ -546,7 +502,7 @@ public final class PromisesTest {
         due(x.through(0, 5, 0), BEYOND);
         due(x.through(0, 0, 5), BEYOND);
 
-        promise = 31;
+        ask(31);
         due(x.middle(0, 1, 0), 2);
         due(x.middle(0, 1, 2), 0);
         due(x.middle(0, 3, 4), 0);
@@ -619,7 +575,7 @@ public final class PromisesTest {
         due(x.feed(1, 1), 120);
         due(x.feed(1, 1), FULL);
 
-        promise = 35;
+        ask(35);
         due(x.wipe(), 120);
         due(x.wipe(), 0);
         due(x.count(3), 0);
@@ -657,11 +613,10 @@ public final class PromisesTest {
     }
 
     private static void fault(YearWords x, String text, int place) {
-        row++;
         int parts = x.count(0);
         int tales = x.count(1);
         int hearers = x.count(2);
-        Due.is("book of '" + text + "'", book(x, text), -1 - place);
+        due(book(x, text), -1 - place);
         due(x.count(0), parts);
         due(x.count(1), tales);
         due(x.count(2), hearers);
@@ -671,54 +626,54 @@ public final class PromisesTest {
 
     private static void faults() {
         YearWords x = begin(36);
-        fault(x, "", 0);
-        fault(x, "   ", 3);
-        fault(x, ";", 0);
-        fault(x, "tale;", 5);
-        fault(x, "tale; ", 6);
-        fault(x, "tale;;", 5);
-        fault(x, "tale tale", 5);
-        fault(x, "tale1", 4);
-        fault(x, "tales", 0);
-        fault(x, "Tale", 0);
-        fault(x, "tale\tof", 4);
-        fault(x, "tale of", 7);
-        fault(x, "tale of 0", 8);
-        fault(x, "word", 4);
-        fault(x, "word 0", 5);
-        fault(x, "word 13", 5);
-        fault(x, "word 1000", 5);
-        fault(x, "word 4294967297", 5);
-        fault(x, "word to", 5);
-        fault(x, "word 3 to", 9);
-        fault(x, "word 3 to 2", 10);
-        fault(x, "word 3 to 13", 10);
-        fault(x, "word 3 worth", 12);
-        fault(x, "word 3 worth 10", 13);
-        fault(x, "word 3 worth 1 to 4", 15);
-        fault(x, "word 3 4", 7);
-        fault(x, "word 3 of", 7);
-        fault(x, "word 3;tale of 0 1", 17);
-        fault(x, "word 3;tale of 0 0 0 0 0 0 0 0 0 0 0", 35);
-        fault(x, "word 3;tale of;word 4", 14);
-        fault(x, "tale of 0;word 3", 8);
-        fault(x, "hearer", 6);
-        fault(x, "hearer 100", 7);
-        fault(x, "hearer x", 7);
-        fault(x, "hearer 5 5", 9);
-        fault(x, "hearer 5; " + (char) 200, 10);
-        fault(x, "hearer 5." + "tale", 8);
-        fault(x, "to 3", 0);
-        fault(x, "5", 0);
-        fault(x, "xale", 0);
-        fault(x, "tale" + (char) 0, 4);
-        fault(x, (char) 0 + "tale", 0);
-        fault(x, "tale z", 5);
-        fault(x, "talez", 0);
-        fault(x, "tale`", 4);
-        fault(x, "tale{", 4);
-        fault(x, "tale of/", 7);
-        fault(x, "tale of:", 7);
+        fault(new YearWords(), "", 0);
+        fault(new YearWords(), "   ", 3);
+        fault(new YearWords(), ";", 0);
+        fault(new YearWords(), "tale;", 5);
+        fault(new YearWords(), "tale; ", 6);
+        fault(new YearWords(), "tale;;", 5);
+        fault(new YearWords(), "tale tale", 5);
+        fault(new YearWords(), "tale1", 4);
+        fault(new YearWords(), "tales", 0);
+        fault(new YearWords(), "Tale", 0);
+        fault(new YearWords(), "tale\tof", 4);
+        fault(new YearWords(), "tale of", 7);
+        fault(new YearWords(), "tale of 0", 8);
+        fault(new YearWords(), "word", 4);
+        fault(new YearWords(), "word 0", 5);
+        fault(new YearWords(), "word 13", 5);
+        fault(new YearWords(), "word 1000", 5);
+        fault(new YearWords(), "word 4294967297", 5);
+        fault(new YearWords(), "word to", 5);
+        fault(new YearWords(), "word 3 to", 9);
+        fault(new YearWords(), "word 3 to 2", 10);
+        fault(new YearWords(), "word 3 to 13", 10);
+        fault(new YearWords(), "word 3 worth", 12);
+        fault(new YearWords(), "word 3 worth 10", 13);
+        fault(new YearWords(), "word 3 worth 1 to 4", 15);
+        fault(new YearWords(), "word 3 4", 7);
+        fault(new YearWords(), "word 3 of", 7);
+        fault(new YearWords(), "word 3;tale of 0 1", 17);
+        fault(new YearWords(), "word 3;tale of 0 0 0 0 0 0 0 0 0 0 0", 35);
+        fault(new YearWords(), "word 3;tale of;word 4", 14);
+        fault(new YearWords(), "tale of 0;word 3", 8);
+        fault(new YearWords(), "hearer", 6);
+        fault(new YearWords(), "hearer 100", 7);
+        fault(new YearWords(), "hearer x", 7);
+        fault(new YearWords(), "hearer 5 5", 9);
+        fault(new YearWords(), "hearer 5; " + (char) 200, 10);
+        fault(new YearWords(), "hearer 5." + "tale", 8);
+        fault(new YearWords(), "to 3", 0);
+        fault(new YearWords(), "5", 0);
+        fault(new YearWords(), "xale", 0);
+        fault(new YearWords(), "tale" + (char) 0, 4);
+        fault(new YearWords(), (char) 0 + "tale", 0);
+        fault(new YearWords(), "tale z", 5);
+        fault(new YearWords(), "talez", 0);
+        fault(new YearWords(), "tale`", 4);
+        fault(new YearWords(), "tale{", 4);
+        fault(new YearWords(), "tale of/", 7);
+        fault(new YearWords(), "tale of:", 7);
         due(book(x, "tale;tale;tale;tale;tale;tale;tale;tale"), 8);
         fault(x, "hearer 1;tale of 99", 9);
         due(book(x, "pad 1;pad 1;pad 1;pad 1;pad 1;pad 1;pad 1;pad 1;pad 1;pad 1"), 10);
@@ -889,7 +844,7 @@ public final class PromisesTest {
         x.sheet(0, 8, 1);
         due(x.image(), 1);
 
-        promise = 44;
+        ask(44);
         x.set(1, 1, 5);
         x.set(1, 2, 12);
         x.set(1, 3, 9);
@@ -931,7 +886,7 @@ public final class PromisesTest {
         due(x.undo(), 6);
         due(x.ageOf(0), 1);
 
-        promise = 45;
+        ask(45);
         due(x.tear(), 1);
         due(x.tear(), 0);
         due(x.undo(), NONE);
@@ -988,31 +943,31 @@ public final class PromisesTest {
         x.part(4, 12, 12, 3);
         due(x.set(0, 3, 0), 3);
         due(x.set(0, 3, 2), 0);
-        promise = 7;
+        ask(7);
         due(x.value(0, 24), 24);
         due(x.value(0, 25), BEYOND);
         tell(x, 0, 0);
-        promise = 13;
+        ask(13);
         due(x.ways(0, 24), 1);
         due(x.ways(0, 36), 2);
         due(x.ways(0, 48), 1);
-        promise = 16;
+        ask(16);
         due(x.best(0, 48, -1), 48);
         due(x.best(0, 36, 0), 12);
         due(x.best(0, 36, 1), 24);
-        promise = 18;
+        ask(18);
         due(x.fills(0, 72), 0);
         x.part(5, 3, 3, 0);
         tell(x, 0, 1);
         due(x.fills(1, 28), 1);
-        promise = 28;
+        ask(28);
         hear(x, 24, 23);
         due(x.together(0, 48, 3), 1);
         due(x.together(0, 36, 3), 2);
-        promise = 5;
+        ask(5);
         due(x.turn(0, 0), 4);
         due(x.partOf(0, 4), 1 << 12);
-        promise = 41;
+        ask(41);
         tell(x);
         x.sheet(0, 8, 1);
         due(x.say(0, 2, 0), 0);
@@ -1027,7 +982,7 @@ public final class PromisesTest {
         hear(x, 0, 99);
         due(x.when(0, 0), 99);
         due(x.when(0, 1), 0);
-        promise = 26;
+        ask(26);
         due(x.till(0, 1), 100);
         x.part(5, 12, 12, 0);
         tell(x, 1, 1, 1, 1, 1, 1, 1, 1);
@@ -1041,20 +996,20 @@ public final class PromisesTest {
         due(x.ways(0, 1), 10);
         due(x.ways(0, 2), 55);
         due(x.ways(1, 120), 1);
-        promise = 14;
+        ask(14);
         x.cut(0);
         due(x.allWays(0), 10604499373L);
-        promise = 15;
+        ask(15);
         due(x.length(1, 0), 120);
         due(x.length(1, 1), 120);
         due(x.length(1, 2), 0);
-        promise = 16;
+        ask(16);
         x.tell(0, 0);
         due(x.best(0, 120, -1), -120);
         due(x.best(0, 13, 8), 1);
         due(x.best(0, 13, 9), 12);
         due(x.best(1, 120, -1), 90);
-        promise = 18;
+        ask(18);
         x.cut(0);
         x.cut(1);
         due(x.fills(1, 108), STATE);
