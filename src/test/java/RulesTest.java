@@ -12,35 +12,35 @@ import java.util.regex.Pattern;
 
 /** Those rules of LANGUAGE.md that can be seen from the class's face and from its text. */
 public final class RulesTest {
-    private static final String FACE = "long allWays(int); int age(int,int); int ageOf(int); int as(int,int);"
-        + " int best(int,int,int); int book(); int chain(int); int copy(int,int,int,int,int); int count(int);"
-        + " int cut(int); int feed(int,int); int fills(int,int); int heard(int,int,int); int hearer(int);"
-        + " int image(); int ith(int,int); int lays(int); int length(int,int); int middle(int,int,int);"
-        + " int part(int,int,int,int); int partOf(int,int); int pass(int,int); int read(int,int,int);"
-        + " int richest(int); int say(int,int,int); int set(int,int,int); int sheet(int,int,int); int size(int);"
-        + " int spread(int,int); int status(int); int tale(); int tales(int); int tear(); int tell(int,int);"
-        + " int through(int,int,int); int till(int,int); int to(int); int together(int,int,int); int turn(int,int);"
-        + " int undo(); int value(int,int); long ways(int,int); int when(int,int); int wipe();"
-        + " long write(int,int,long); int years(int)";
     private static final List<String> NEVER = List.of("throw", "throws", "try", "catch", "synchronized", "assert",
         "import", "package", "protected", "var", "Object", "System\\.(?!arraycopy)", "\\w+Exact", "->", "::",
         "toString", "hashCode", "equals", "double", "float", "new \\w+\\([^)]*\\) *\\{");
 
     public static void main(String[] args) throws Exception {
-        face();
+        String root = System.getProperty("yearwords.root", ".");
+        face(faceOf(Files.readString(Path.of(root, "../shared/DOC.md"))));
         for (Class<?> inside : YearWords.class.getDeclaredClasses()) {
             inside(inside);
         }
         Due.holds("at most twelve classes", YearWords.class.getDeclaredClasses().length < 12);
-        String root = System.getProperty("yearwords.root", ".");
         String text = Files.readString(Path.of(root, "src/main/java/YearWords.java"));
         words(text.replaceAll("(?s)/\\*.*?\\*/", "").replaceAll("//[^\n]*", ""));
         methods(text.split("\n"));
         Due.end("RulesTest");
     }
 
-    private static void face() {
-        Set<String> want = new TreeSet<>(List.of(FACE.split("; *")));
+    /** As the document writes it, but for the parameters' names. */
+    private static Set<String> faceOf(String document) {
+        Set<String> face = new TreeSet<>();
+        Matcher m = Pattern.compile("(?m)^    public ((?:int|long) \\w+\\(.*\\));$").matcher(document);
+        while (m.find()) {
+            face.add(m.group(1).replaceAll("(int|long) \\w+(, |\\))", "$1$2").replace(", ", ","));
+        }
+        Due.is("calls in the document's face", face.size(), 46);
+        return face;
+    }
+
+    private static void face(Set<String> want) {
         Set<String> got = new TreeSet<>();
         Set<String> publicNames = new TreeSet<>();
         for (Method m : YearWords.class.getDeclaredMethods()) {
